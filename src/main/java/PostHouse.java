@@ -1904,7 +1904,7 @@ public final class PostHouse {
             come(item, IS_IN);
         }
 
-        void hold(int item, int days) {
+        void keepFor(int item, int days) {
             come(item, IS_HELD);
             fact[TILL][item] = chronicle.today() + days;
         }
@@ -2062,7 +2062,7 @@ public final class PostHouse {
             if (!has(item)) return UNKNOWN;
             if (!is(item, IS_OUT)) return STATE;
             if (!log.admits()) return ROOM;
-            hold(item, HELD_DAYS);
+            keepFor(item, HELD_DAYS);
             return fact[TILL][item];
         }
 
@@ -2177,7 +2177,7 @@ public final class PostHouse {
             int free = boxWith(locker, NONE);
             if (free == NONE || !log.admits()) return ROOM;
             box[locker][free] = item;
-            items.hold(item, HELD_DAYS);
+            items.keepFor(item, HELD_DAYS);
             items.fact[Items.LOCKER][item] = locker;
             return free;
         }
@@ -2258,6 +2258,8 @@ public final class PostHouse {
         private final boolean[] gateOpen = new boolean[MOST_BINS];
         /** Which item of the pass came to a gate last. */
         private final int[] cameLast = new int[MOST_BINS];
+        /** How far the stops of a round are from each other, the beginning being one behind the last of them. */
+        private final int[][] apart = new int[BEST_ORDER + 1][BEST_ORDER + 1];
         /** By stops left (as bits) and the stop where one stands: the least way through them and back. */
         private final int[][] leastWay = new int[1 << BEST_ORDER][BEST_ORDER];
 
@@ -2380,34 +2382,40 @@ public final class PostHouse {
         /** Orders stops that lie by their numbers: of the orders with the least way the first by numbers. */
         private void goLeastWay(int round) {
             int size = fact[SIZE][round];
-            int[] stops = stop[round];
+            measure(round, size);
             for (int left = 0; left < 1 << size; left++) {
                 for (int at = 0; at < size; at++) {
-                    int next = bestNext(round, left, at);
-                    leastWay[left][at] = next == NONE ? fromBeginning(round, stops[at])
-                        : between(stops[at], stops[next]) + leastWay[left ^ 1 << next][next];
+                    int next = bestNext(size, left, at);
+                    leastWay[left][at] = next == NONE ? apart[at][size] : apart[at][next] + leastWay[left ^ 1 << next][next];
                 }
             }
             int left = (1 << size) - 1;
-            int at = NONE;
+            int at = size;
             for (int k = 0; k < size; k++) {
-                at = bestNext(round, left, at);
-                if (at == NONE) return;
-                left ^= 1 << at;
-                spare[k] = stops[at];
+                int next = bestNext(size, left, at);
+                if (next == NONE) return;
+                left ^= 1 << next;
+                spare[k] = stop[round][next];
+                at = next;
             }
-            System.arraycopy(spare, 0, stops, 0, size);
+            System.arraycopy(spare, 0, stop[round], 0, size);
         }
 
-        /** Of the stops that are left that to which to go from a stop (NONE: the beginning); NONE when none is left. */
-        private int bestNext(int round, int left, int at) {
+        private void measure(int round, int size) {
+            for (int a = 0; a < size; a++) {
+                apart[a][size] = fromBeginning(round, stop[round][a]);
+                apart[size][a] = apart[a][size];
+                for (int b = 0; b < size; b++) apart[a][b] = between(stop[round][a], stop[round][b]);
+            }
+        }
+
+        /** Of the stops that are left that to which to go from where one stands; NONE when none is left. */
+        private int bestNext(int size, int left, int at) {
             int best = NONE;
             int least = Integer.MAX_VALUE;
-            int[] stops = stop[round];
-            for (int next = 0; next < fact[SIZE][round]; next++) {
+            for (int next = 0; next < size; next++) {
                 if ((left >> next & 1) == 0) continue;
-                int step = at == NONE ? fromBeginning(round, stops[next]) : between(stops[at], stops[next]);
-                int way = step + leastWay[left ^ 1 << next][next];
+                int way = apart[at][next] + leastWay[left ^ 1 << next][next];
                 if (way < least) {
                     least = way;
                     best = next;

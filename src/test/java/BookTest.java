@@ -161,6 +161,7 @@ public final class BookTest {
     private static void goals() {
         PostHouse x = Town.built(0);
         asked(x, 2, 9, 2, 2);
+        asked(x, 2, 99, 2, 2);
         x.forward(0, 3, 1, 9);
         asked(x, 0, 3, 1, 1);
         asked(x, 0, 4, 0, 0);

@@ -11,6 +11,7 @@ public final class LineTest {
         twoLegs();
         looksJustBeforeItLeaves();
         ways();
+        waysAsLong();
         goalPlaces();
         Check.finish();
     }
@@ -253,6 +254,22 @@ public final class LineTest {
         Check.due("48: late today, but not the next day", x.way(0, 2, 0), 1531);
         x.late(4, 35);
         Check.due("48: late today", x.way(1, 2, 0) * 10 + x.way(1, 2, 1), 1213);
+    }
+
+    private static void waysAsLong() {
+        PostHouse x = four();
+        // Places 1 and 2 are reached at one time, and both reach place 3 at one time: place 1 is looked at first.
+        x.leg(0, 2, 100, 10, 1);
+        x.leg(0, 1, 100, 10, 1);
+        x.leg(2, 3, 200, 5, 1);
+        x.leg(1, 3, 200, 5, 1);
+        Check.due("48: of these the least number", x.way(0, 3, 0) * 10 + x.way(0, 3, 1), 2051);
+        PostHouse y = four();
+        // Two lines of one place: the first one stays.
+        y.leg(0, 1, 100, 10, 1);
+        y.leg(1, 3, 200, 5, 1);
+        y.leg(0, 3, 200, 5, 1);
+        Check.due("48: place 0 is looked at first", y.way(0, 3, 1), 2);
     }
 
     private static void goalPlaces() {

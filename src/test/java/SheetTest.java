@@ -6,6 +6,7 @@ public final class SheetTest {
         refusals();
         readings();
         misspeltStreets();
+        longNames();
         digitsAndWords();
         everySign();
         darkness();
@@ -94,6 +95,21 @@ public final class SheetTest {
         Check.due("18: 5: two have the least", show(x, "LUND 3", "100"), 5);
         Check.due("18: one has it", show(x, "LANDE 3", "100"), 0);
         Check.due("19: its point", x.read(), 5);
+    }
+
+    private static void longNames() {
+        PostHouse x = new PostHouse();
+        Town.book(x, "P5,A;S5,ZZZZZZZZZ,0,0,0;S5,AAAAAAAAAA,0,0,0;S5,A,0,0,0;R5,ZZZZZZZZZ,0,1,9;R5,AAAAAAAAAA,0,1,9;R5,A,0,1,9;"
+            + "H5,ZZZZZZZZZ,1;H5,AAAAAAAAAA,1;H5,A,1;");
+        String[] names = {"ZZZZZZZZZ", "AAAAAAAAAA", "A"};
+        for (int k = 0; k < 3; k++) {
+            Check.due("18: " + names[k], show(x, names[k] + " 1", "5"), 0);
+            Check.due("19: its point", x.read(), k);
+        }
+        Check.due("18: two left out", show(x, "ZZZZZZZ 1", "5") * 10 + x.read(), 0);
+        Check.due("18: three left out", show(x, "ZZZZZZ 1", "5"), 5);
+        Check.due("18: two put in", show(x, "AAAAAAAAAAAA 1", "5") * 10 + x.read(), 1);
+        Check.due("18: three put in", show(x, "AAAAAAAAAAAAA 1", "5"), 5);
     }
 
     private static void digitsAndWords() {
