@@ -193,6 +193,7 @@ public final class DeliveryTest {
         Town.tariff(x, "K1,100=5;V2=1;");
         Check.due("52: its price is due", x.put(a, 0), Town.STATE);
         Town.tariff(x, "K0,100=5;V2=1;");
+        Check.due("52: as much for the price as in cents", x.put(out(x, 0, 2, 7, 106), 0), Town.STATE);
         Check.due("52: it has no price", x.put(a, 0), 0);
         int b = Town.posted(x, 0, 0, 7, 0);
         x.frank(b);

@@ -10,7 +10,9 @@ public final class LogTest {
         tornBlocks();
         startAgain();
         records();
+        brokenTapes();
         logHasNoRoom();
+        roomToTheByte();
         counts();
         Check.finish();
     }
@@ -233,7 +235,9 @@ public final class LogTest {
             for (int t = 1; t <= 4; t++) x.tick(t);
             x.sync();
             forge(x, 1, change[k][0], change[k][1]);
+            Check.due("7: " + what[k], x.verify(), done[k] > 0 ? Town.NONE : 1);
             Check.due("6: " + what[k], Town.restart(x), done[k]);
+            Check.due("10: " + what[k], x.count(15), done[k] > 0 ? 1 : 0);
         }
         PostHouse x = new PostHouse();
         x.tick(1);
@@ -277,6 +281,105 @@ public final class LogTest {
         u.sync();
         forge(u, 1, 9, '!');
         Check.due("6: a text with a fault is passed over", Town.restart(u), 1);
+    }
+
+    /** Tapes in records: as long as they may be, longer, and not all there. */
+    private static void brokenTapes() {
+        PostHouse x = new PostHouse();
+        Town.lay(x, new byte[4096]);
+        x.sheet(128);
+        x.sync();
+        Check.due("6: a tape of 4096", Town.restart(x), 1);
+        for (int octet = 16; octet <= 17; octet++) {
+            PostHouse y = new PostHouse();
+            for (int k = 0; k < 2; k++) {
+                Town.lay(y, new byte[8 + 8 * k]);
+                y.sheet(8);
+            }
+            for (int k = 0; k < 2; k++) {
+                Town.lay(y, new byte[4096]);
+                y.sheet(8);
+            }
+            y.sync();
+            // The second record begins behind the first one's 15 bytes; its tape's length is in its bytes 5 and 6.
+            forge(y, 1, 4 + 15 + 5, octet);
+            forge(y, 1, 4 + 15 + 6, octet - 16);
+            Check.due("6: a tape of " + (octet == 16 ? 4096 : 4353), Town.restart(y), octet == 16 ? 1 + 1 : 1);
+        }
+        PostHouse z = new PostHouse();
+        for (int k = 0; k < 2; k++) {
+            Town.lay(z, new byte[16]);
+            z.sheet(8);
+        }
+        z.sync();
+        forge(z, 1, 4 + 23 + 6, 17);
+        Check.due("6: a tape that is not all there", Town.restart(z), 1);
+        PostHouse w = new PostHouse();
+        for (int k = 0; k < 2; k++) {
+            Town.lay(w, new byte[16]);
+            w.sheet(8);
+        }
+        w.sync();
+        for (int n = 23 + 1; n < 23 + 8; n++) {
+            forge(w, 1, 3, n);
+            Check.due("6: a record that is not all there", Town.restart(w), 1);
+        }
+    }
+
+    /** A house with an account whose log has room for just so many bytes. */
+    private static PostHouse leaving(int bytes) {
+        PostHouse x = Town.built(500);
+        while (37200 - x.count(17) > 4103 + 250) {
+            Town.lay(x, new byte[4096]);
+            x.sheet(128);
+        }
+        for (int sheet = 2048; sheet >= 128; sheet -= 128) {
+            if (37200 - x.count(17) < sheet + 7 + 100) continue;
+            Town.lay(x, new byte[sheet]);
+            x.sheet(128);
+        }
+        StringBuilder text = new StringBuilder();
+        int length = 37200 - x.count(17) - 3 - bytes;
+        for (int row = 1; length > 0; row++) {
+            int size = length >= 24 ? 12 : length > 17 ? length - 9 : length;
+            text.append("K0,").append("0000".substring(0, Math.min(4, size - 8))).append(row + 9).append("=").append("0000".substring(0, Math.max(0, size - 12)))
+                .append("5;");
+            length -= size;
+        }
+        Check.due("60: a tariff that fills up", Town.tariff(x, text.toString()) > 0 ? 1 : 0, 1);
+        Check.due("10: so many bytes are left", 37200 - x.count(17), bytes);
+        return x;
+    }
+
+    private interface Act {
+        int on(PostHouse x);
+    }
+
+    private static void justSo(String name, int bytes, Act act) {
+        Check.due(name + ": a byte too little", act.on(leaving(bytes - 1)), Town.ROOM);
+        PostHouse x = leaving(bytes);
+        Check.due(name + ": just enough", act.on(x) >= 0 ? 1 : 0, 1);
+        Check.due(name + ": the log is full", x.count(17), 37200);
+    }
+
+    private static void roomToTheByte() {
+        justSo("74: tick", 5, x -> x.tick(3));
+        justSo("56: account", 5, x -> x.account(2));
+        justSo("57: deposit", 9, x -> x.deposit(4, 3));
+        justSo("67: locker", 9, x -> x.locker(0, 3));
+        justSo("13: hold", 13, x -> x.hold(0, 0, 7));
+        justSo("63: order", 13, x -> x.order(4, 5, 6));
+        justSo("72: wish", 13, x -> x.wish(4, 5, false));
+        justSo("12: forward", 17, x -> x.forward(0, 5, 1, 9));
+        justSo("31: machine", 17, x -> x.machine(2, 2, 2, 2));
+        justSo("41: leg", 21, x -> x.leg(0, 1, 2, 3, 4));
+        justSo("22: item", 25, x -> x.item(0, 1, 2, 4, 5, 6));
+        justSo("11: book", 3 + 6, x -> Town.book(x, "P80,X;"));
+        justSo("60: tariff", 3 + 5, x -> Town.tariff(x, "V4=1;"));
+        justSo("18: sheet", 7 + 24, x -> {
+            Town.lay(x, new byte[24]);
+            return x.sheet(12);
+        });
     }
 
     private static void logHasNoRoom() {

@@ -273,6 +273,29 @@ public final class MoneyTest {
         Town.bringOut(y, a);
         Check.due("49: two bookings, one has room", y.hand(a, 1, 0, 151), Town.ROOM);
         Check.due("63: two, one has room", y.order(4, 5, 1), Town.ROOM);
-        Check.due("57: one has room", y.deposit(4, 1), 9996);
+        int b = Town.posted(y, 0, 0, 7, 0);
+        Check.due("62: one has room", y.frank(b), 1);
+        Check.due("10: it is full now", y.count(11), 2000);
+        PostHouse z = Town.built(5);
+        for (int k = 1; k < 1998; k++) z.deposit(4, 5);
+        int c = Town.posted(z, 0, 2, 7, 50), d = Town.posted(z, 0, 2, 7, 50);
+        Town.bringOut(z, c);
+        Check.due("49: one booking of two that have room", z.hand(c, 1, 0, 50), 1);
+        Town.bringOut(z, d);
+        Check.due("49: one of one", z.hand(d, 1, 0, 50), 1);
+        Check.due("10: it is full now", z.count(11), 2000);
+        PostHouse w = Town.built(5);
+        Town.tariff(w, "K0,40=1;");
+        for (int k = 1; k < 1998; k++) w.deposit(4, 5);
+        int e = Town.posted(w, 0, 2, 7, 50), f = Town.posted(w, 0, 1, 7, 0);
+        Town.bringOut(w, e);
+        Check.due("49: two of two", w.hand(e, 1, 0, 151), 1);
+        w.lose(f);
+        Check.due("66: none has room", w.claim(f, 1), Town.ROOM);
+        PostHouse v = Town.built(5);
+        for (int k = 1; k < 1999; k++) v.deposit(4, 5);
+        int g = Town.posted(v, 0, 1, 7, 0);
+        v.lose(g);
+        Check.due("66: one has room", v.claim(g, 1), 1);
     }
 }
