@@ -1234,7 +1234,6 @@ public final class PostHouse {
         private int parts;
         private final int[][] part = new int[4][PARTS];
         private final int[] lineOfPart = new int[PARTS];
-        private final int[][] partLine = new int[LINE_FACTS][PARTS];
         private final int[] order = new int[PARTS];
         private int lines;
         private final int[][] line = new int[LINE_FACTS + 1][LINES];
@@ -1328,17 +1327,12 @@ public final class PostHouse {
         }
 
         private void joinLine(int first, int l) {
-            partLine[LINE_TOP][l] = part[TOP][first];
-            partLine[LINE_LEFT][l] = part[LEFT][first];
             queue[0] = first;
             queued = 1;
             lineOfPart[first] = l;
             for (int k = 0; k < queued && k < PARTS; k++) {
-                int p = queue[k];
-                partLine[LINE_TOP][l] = Math.min(partLine[LINE_TOP][l], part[TOP][p]);
-                partLine[LINE_LEFT][l] = Math.min(partLine[LINE_LEFT][l], part[LEFT][p]);
                 for (int other = 0; other < parts; other++) {
-                    if (lineOfPart[other] == NONE && areNear(p, other)) {
+                    if (lineOfPart[other] == NONE && areNear(queue[k], other)) {
                         lineOfPart[other] = l;
                         queue[queued++] = other;
                     }
@@ -1362,12 +1356,8 @@ public final class PostHouse {
         }
 
         private boolean goesBefore(int p, int other) {
-            int a = lineOfPart[p], b = lineOfPart[other];
-            if (a != b) {
-                int byTop = partLine[LINE_TOP][a] - partLine[LINE_TOP][b];
-                int byLeft = partLine[LINE_LEFT][a] - partLine[LINE_LEFT][b];
-                return byTop != 0 ? byTop < 0 : byLeft != 0 ? byLeft < 0 : a < b;
-            }
+            // Parts are found by their tops, and no two lines have one top: so lines are found by their highest tops.
+            if (lineOfPart[p] != lineOfPart[other]) return lineOfPart[p] < lineOfPart[other];
             int byLeft = part[LEFT][p] - part[LEFT][other];
             int byTop = part[TOP][p] - part[TOP][other];
             return byLeft != 0 ? byLeft < 0 : byTop != 0 ? byTop < 0 : p < other;
@@ -1375,21 +1365,25 @@ public final class PostHouse {
 
         private void keepLines() {
             lines = 0;
-            int lastLine = NONE;
             for (int k = 0; k < parts; k++) {
-                int p = order[k], l = lineOfPart[p];
-                boolean begins = l != lastLine;
-                if (begins) {
-                    if (lines == LINES) return;
-                    line[BOXES][lines] = 0;
-                    line[LINE_TOP][lines] = partLine[LINE_TOP][l];
-                    line[LINE_LEFT][lines] = partLine[LINE_LEFT][l];
-                    line[FIRST][lines++] = k;
-                    lastLine = l;
-                }
-                line[BOXES][lines - 1]++;
+                int p = order[k];
+                boolean begins = k == 0 || lineOfPart[p] != lineOfPart[order[k - 1]];
+                if (begins && lines == LINES) return;
+                if (begins) beginLine(k, p);
+                int l = lines - 1;
+                line[BOXES][l]++;
+                line[LINE_TOP][l] = Math.min(line[LINE_TOP][l], part[TOP][p]);
+                line[LINE_LEFT][l] = Math.min(line[LINE_LEFT][l], part[LEFT][p]);
                 keepBox(k, p, begins);
             }
+        }
+
+        private void beginLine(int k, int p) {
+            line[FIRST][lines] = k;
+            line[BOXES][lines] = 0;
+            line[LINE_TOP][lines] = part[TOP][p];
+            line[LINE_LEFT][lines] = part[LEFT][p];
+            lines++;
         }
 
         private void keepBox(int k, int p, boolean beginsLine) {
@@ -1536,8 +1530,8 @@ public final class PostHouse {
         static final int SYMBOLS = 15;
         private static final int TOLD = 11;
         private static final int[] POWERS = {1, 2, 4, 8, 3, 6, 12, 11, 5, 10, 7, 14, 15, 13, 9};
-        /** Of what power of 2 a number is; 0 is of none. */
-        private static final int[] LOGS = {NONE, 0, 1, 4, 2, 8, 5, 10, 3, 14, 9, 7, 6, 13, 11, 12};
+        /** Of what power of 2 a number is; 0 is of none, so what stands for it is never asked for. */
+        private static final int[] LOGS = {0, 0, 1, 4, 2, 8, 5, 10, 3, 14, 9, 7, 6, 13, 11, 12};
         /** What (x - 2) (x - 4) (x - 8) (x - 3) is, without its x^4. */
         private static final int[] DIVISOR = {13, 12, 8, 7};
 

@@ -68,7 +68,7 @@ public final class BookTest {
             "R5,LANG,0,20,1000;", "R5,LANG,0,9,20;", "R5,LANG,1,1,3;", "R5,LANG,0,1,999;", "H6,LANG,3;", "H5,KURZ,3;", "H5,LANG,4;", "H5,LANG,1;",
             "H5,LANG,11;", "H5,LANG,0;", "S0,A,1,1,1;", "S999999,A,1,1,1;"};
         for (String w : wrong) text(town + w, -1000 - n);
-        String[] right = {"R5,LANG,2,1,999;", "R5,LANG,1,1,2;", "R5,LANG,0,10,10;", "R5,LANG,2,3,3;", "H5,LANG,3;", "H5,LANG,9;", "H5,LANG,000005;"};
+        String[] right = {"R5,LANG,2,1,999;", "R5,LANG,1,1,2;", "R5,LANG,0,10,10;", "R5,LANG,2,3,3;", "R5,LANG,1,999,999;", "R5,LANG,0,1,1;", "H5,LANG,3;", "H5,LANG,9;", "H5,LANG,000005;"};
         for (String r : right) text(town + r, 4);
         text(town + "H5,LANG,3;H5,LANG,3;", -1000 - n - 10);
     }
