@@ -37,6 +37,7 @@ public final class DeliveryTest {
         Check.due("53: it is OUT", x.pickUp(a, 7, 0, 0), Town.STATE);
         int b = Town.posted(x, 0, 0, 7, 0);
         Check.due("49: it is IN", x.hand(b, 7, 0, 0), Town.STATE);
+        Check.due("49: the most cents", x.hand(a, 99, 9999, 1000000), Town.WRONG_SUM);
         Check.due("49: anybody", x.hand(a, 99, 9999, 0), 1);
         Check.due("27: DELIVERED", x.about(a, 0), 5);
         Check.due("49: it is DELIVERED", x.hand(a, 99, 0, 0), Town.STATE);

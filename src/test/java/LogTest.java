@@ -239,6 +239,12 @@ public final class LogTest {
             Check.due("6: " + what[k], Town.restart(x), done[k]);
             Check.due("10: " + what[k], x.count(15), done[k] > 0 ? 1 : 0);
         }
+        PostHouse long2 = new PostHouse();
+        for (int k = 0; k < 60; k++) long2.tick(1);
+        long2.sync();
+        forge(long2, 1, 2, 2);
+        Check.due("7: a third byte of 2 where 248 bytes are", long2.verify(), 1);
+        Check.due("6: it is not right", Town.restart(long2), 0);
         PostHouse x = new PostHouse();
         x.tick(1);
         x.tick(2);

@@ -14,6 +14,7 @@ public final class MoneyTest {
         claims();
         fullLedger();
         fullLedgerForOrders();
+        ledgerAfterStart();
         Check.finish();
     }
 
@@ -297,5 +298,15 @@ public final class MoneyTest {
         int g = Town.posted(v, 0, 1, 7, 0);
         v.lose(g);
         Check.due("66: one has room", v.claim(g, 1), 1);
+    }
+
+    private static void ledgerAfterStart() {
+        PostHouse x = Town.built(5);
+        x.order(4, 5, 1);
+        x.sync();
+        for (int k = 0; k < 3; k++) Check.due("6: four acts", Town.restart(x), 4);
+        for (int k = 2; k < 1999; k++) x.deposit(4, 5);
+        Check.due("57: room for all but one", x.count(11), 1999);
+        Check.due("57: that is kept for the order", x.deposit(4, 5), Town.ROOM);
     }
 }
