@@ -27,16 +27,6 @@ public final class SheetTest {
         return show(x, 60, Sheets.draw(60, 1, 2, lines));
     }
 
-    /** A sheet of these rows: # is ink, all else white. */
-    private static byte[] pixels(String... rows) {
-        byte[] sheet = new byte[rows.length * rows[0].length()];
-        for (int k = 0; k < sheet.length; k++) {
-            int width = rows[0].length();
-            sheet[k] = (byte) (rows[k / width].charAt(k % width) == '#' ? 0 : 255);
-        }
-        return sheet;
-    }
-
     private static void refusals() {
         PostHouse x = Town.built(0);
         Check.due("18: no sheet", x.read(), Town.NONE);
@@ -131,11 +121,11 @@ public final class SheetTest {
         Check.due("20: OUTSIDE", x.textLine(0, 3) + x.textLine(9, -1), 2 * Town.OUTSIDE);
         Check.due("20: none such", x.textLine(2, 0) + x.textLine(-1, 0), -2);
         // The height of the first of the two counts, not that of the second.
-        show(x, 16, pixels("                ", " ##     #       ", " ##     #       ", " ##     #       ", " ##     #       ", " ##             "));
+        show(x, 16, Sheets.pixels("                ", " ##     #       ", " ##     #       ", " ##     #       ", " ##     #       ", " ##             "));
         Check.due("21: 5 * 5 is at least 2 * 5", x.sign(0, 1, 7), 1);
-        show(x, 16, pixels("                ", " #### #         ", " #### #         ", " #### #         ", " #### #         ", " ##             "));
+        show(x, 16, Sheets.pixels("                ", " #### #         ", " #### #         ", " #### #         ", " #### #         ", " ##             "));
         Check.due("21: 5 * 1 is less than 2 * 5", x.sign(0, 1, 7), 0);
-        show(x, 16, pixels("##  #           ", "##  #           ", "##  #           ", "##  #           ", "    #           ", "    #           "));
+        show(x, 16, Sheets.pixels("##  #           ", "##  #           ", "##  #           ", "##  #           ", "    #           ", "    #           "));
         Check.due("21: 5 * 2 is at least 2 * 4", x.sign(0, 1, 7), 1);
     }
 
@@ -158,7 +148,7 @@ public final class SheetTest {
         show(x, 30, Sheets.draw(30, 1, 2, "O8"));
         Check.due("21: O as a digit", x.sign(0, 0, 5), nearest(025552, cells, 0, 10));
         Check.due("21: 8 as a letter", x.sign(0, 1, 6), nearest(075757, cells, 10, 36));
-        show(x, 8, pixels("        ", " ###    ", " ###    ", " ###    ", " ###    ", " ###    "));
+        show(x, 8, Sheets.pixels("        ", " ###    ", " ###    ", " ###    ", " ###    ", " ###    "));
         Check.due("21: a full box", x.sign(0, 0, 4), 077777);
         Check.due("21: as a digit", x.sign(0, 0, 5), nearest(077777, cells, 0, 10));
         Check.due("21: as a letter", x.sign(0, 0, 6), nearest(077777, cells, 10, 36));
@@ -183,7 +173,7 @@ public final class SheetTest {
     }
 
     private static void darkness() {
-        byte[] square = pixels("        ", " ##     ", " ##     ", "        ");
+        byte[] square = Sheets.pixels("        ", " ##     ", " ##     ", "        ");
         int[][] greys = {{0, 31, 0}, {0, 32, 1}, {100, 132, 1}, {224, 255, 0}, {223, 255, 1}};
         for (int[] g : greys) {
             byte[] grey = square.clone();
@@ -200,13 +190,13 @@ public final class SheetTest {
     }
 
     private static void parts() {
-        Check.due("20: three points are no part", parts(pixels("        ", " ##     ", " #      "), 8), 0);
-        Check.due("20: four are", parts(pixels("        ", " ##     ", " ##     "), 8), 1);
-        Check.due("20: aslant", parts(pixels("#       ", " #      ", "  #     ", "   #    "), 8), 1);
-        Check.due("20: the other way aslant", parts(pixels("   #    ", "  #     ", " #      ", "#       "), 8), 1);
-        Check.due("20: a row does not go on in the next one", parts(pixels("      ##", "##      "), 8), 0);
-        Check.due("20: two beside each other", parts(pixels("## ##   ", "## ##   "), 8), 2);
-        Check.due("20: one that hangs together far away", parts(pixels("# #     ", "# #     ", "###     "), 8), 1);
+        Check.due("20: three points are no part", parts(Sheets.pixels("        ", " ##     ", " #      "), 8), 0);
+        Check.due("20: four are", parts(Sheets.pixels("        ", " ##     ", " ##     "), 8), 1);
+        Check.due("20: aslant", parts(Sheets.pixels("#       ", " #      ", "  #     ", "   #    "), 8), 1);
+        Check.due("20: the other way aslant", parts(Sheets.pixels("   #    ", "  #     ", " #      ", "#       "), 8), 1);
+        Check.due("20: a row does not go on in the next one", parts(Sheets.pixels("      ##", "##      "), 8), 0);
+        Check.due("20: two beside each other", parts(Sheets.pixels("## ##   ", "## ##   "), 8), 2);
+        Check.due("20: one that hangs together far away", parts(Sheets.pixels("# #     ", "# #     ", "###     "), 8), 1);
         byte[] many = new byte[126 * 32];
         Arrays.fill(many, (byte) 255);
         for (int y = 0; y + 1 < 30; y += 3) {
@@ -221,17 +211,17 @@ public final class SheetTest {
 
     private static void lines() {
         PostHouse x = new PostHouse();
-        show(x, 12, pixels("## ##       ", "## ##       ", "      ##    ", "      ##    ", "## ##       ", "## ##       ", "            ", "            "));
+        show(x, 12, Sheets.pixels("## ##       ", "## ##       ", "      ##    ", "      ##    ", "## ##       ", "## ##       ", "            ", "            "));
         Check.due("20: three lines", x.textLine(0, 0) * 100 + x.textLine(1, 0) * 10 + x.textLine(2, 0), 212);
         Check.due("20: tops", x.textLine(0, 1) * 100 + x.textLine(1, 1) * 10 + x.textLine(2, 1), 24);
         Check.due("20: lefts", x.textLine(0, 2) * 100 + x.textLine(1, 2) * 10 + x.textLine(2, 2), 60);
         // Of heights 4 and 2, one row in common is half of the lesser.
-        show(x, 12, pixels("            ", "##          ", "##          ", "##          ", "##  ##      ", "    ##      "));
+        show(x, 12, Sheets.pixels("            ", "##          ", "##          ", "##          ", "##  ##      ", "    ##      "));
         Check.due("20: half of the lesser height", x.textLine(0, 0), 2);
-        show(x, 12, pixels("            ", "##          ", "##          ", "##          ", "##  ##      ", "    ##      ", "    ##      "));
+        show(x, 12, Sheets.pixels("            ", "##          ", "##          ", "##          ", "##  ##      ", "    ##      ", "    ##      "));
         Check.due("20: less than half", x.textLine(0, 0), 1);
         // A high box joins what would be lines of its own.
-        show(x, 12, pixels("##    #     ", "##    #     ", "      #     ", "      #     ", " ##   #     ", " ##   #     "));
+        show(x, 12, Sheets.pixels("##    #     ", "##    #     ", "      #     ", "      #     ", " ##   #     ", " ##   #     "));
         Check.due("20: they hang together", x.textLine(0, 0), 3);
         Check.due("20: highest top and least left", x.textLine(0, 1) * 10 + x.textLine(0, 2), 0);
         String[] rows = new String[36];
@@ -240,7 +230,7 @@ public final class SheetTest {
             rows[3 * k + 1] = "  ##    ";
             rows[3 * k + 2] = "  ##    ";
         }
-        show(x, 8, pixels(rows));
+        show(x, 8, Sheets.pixels(rows));
         Check.due("20: the tenth line", x.textLine(9, 1), 28);
         Check.due("20: the first ten alone", x.textLine(10, 0), Town.NONE);
         PostHouse y = Town.built(0);
@@ -254,11 +244,11 @@ public final class SheetTest {
     private static void orderInALine() {
         PostHouse x = new PostHouse();
         // The box in the middle begins furthest up, the last one is furthest left.
-        show(x, 12, pixels("     ##     ", "     ##  ## ", "##   ##  ## ", "##   ##  ## "));
+        show(x, 12, Sheets.pixels("     ##     ", "     ##  ## ", "##   ##  ## ", "##   ##  ## "));
         Check.due("21: by left", x.sign(0, 0, 0) * 100 + x.sign(0, 1, 0) * 10 + x.sign(0, 2, 0), 59);
         Check.due("21: their tops", x.sign(0, 0, 1) * 100 + x.sign(0, 1, 1) * 10 + x.sign(0, 2, 1), 201);
         // Two boxes with one left: the upper one goes before.
-        show(x, 12, pixels("####   #    ", "       #    ", "##     #    ", "##     #    ", "       #    "));
+        show(x, 12, Sheets.pixels("####   #    ", "       #    ", "##     #    ", "##     #    ", "       #    "));
         Check.due("20: one line of three", x.textLine(0, 0), 3);
         Check.due("21: by top then", x.sign(0, 0, 1) * 10 + x.sign(0, 1, 1), 2);
         Check.due("21: its height", x.sign(0, 0, 3) * 10 + x.sign(0, 1, 3), 12);
@@ -267,13 +257,13 @@ public final class SheetTest {
     private static void cells() {
         PostHouse x = new PostHouse();
         // A box of 2 by 2: columns from 0, 0, 1 and rows from 0, 0, 0, 1, 1: cells without points are no ink.
-        show(x, 8, pixels("        ", " ##     ", " ##     "));
+        show(x, 8, Sheets.pixels("        ", " ##     ", " ##     "));
         Check.due("21: cells of a small box", x.sign(0, 0, 4), 000303);
         // 4 by 5: columns 1, 1, 2 wide; half of the two points of the last cells is enough.
-        show(x, 8, pixels("        ", " ####   ", " # #    ", " #  #   ", " #      ", " ####   "));
+        show(x, 8, Sheets.pixels("        ", " ####   ", " # #    ", " #  #   ", " #      ", " ####   "));
         Check.due("21: half of the points is enough", x.sign(0, 0, 4), 075547);
         // Points of other parts are dark, too.
-        show(x, 12, pixels("            ", " ########   ", " #      #   ", " # ###  #   ", " #      #   ", " ########   "));
+        show(x, 12, Sheets.pixels("            ", " ########   ", " #      #   ", " # ###  #   ", " #      #   ", " ########   "));
         Check.due("21: two parts", x.textLine(0, 0), 1);
         Check.due("21: three points in the middle", x.sign(0, 0, 4), 074647);
     }

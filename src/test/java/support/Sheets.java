@@ -38,6 +38,14 @@ final class Sheets {
         }
     }
 
+    /** A sheet of these rows: # is ink, all else white. */
+    static byte[] pixels(String... rows) {
+        int width = rows[0].length();
+        byte[] sheet = new byte[rows.length * width];
+        for (int k = 0; k < sheet.length; k++) sheet[k] = (byte) (rows[k / width].charAt(k % width) == '#' ? 0 : 255);
+        return sheet;
+    }
+
     static byte[] noisy(byte[] sheet, int points, Random random) {
         byte[] noisy = sheet.clone();
         for (int k = 0; k < points; k++) noisy[random.nextInt(noisy.length)] = (byte) random.nextInt(256);

@@ -63,6 +63,12 @@ final class Town {
         x.out(round);
     }
 
+    /** The key of an item's box, by the document's words over numbers that do not wrap. */
+    static int key(int item) {
+        long product = (item + 1L) * 1103515245L + 12345L & 0xFFFFFFFFL;
+        return 1000 + (int) ((product >> 16) % 9000);
+    }
+
     /** Lets power go and starts the house again from what was written. */
     static int restart(PostHouse x) {
         x.cut(0, 0);
