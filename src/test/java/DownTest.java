@@ -71,12 +71,15 @@ public final class DownTest {
     /** No call may throw but as the document says, whatever it is given. */
     private static void anyArguments() throws ReflectiveOperationException {
         int[] numbers = {Integer.MIN_VALUE, -1000000, -2, -1, 0, 1, 2, 3, 4, 7, 29, 119, 120, 299, 300, 4096, 1000000000, Integer.MAX_VALUE};
-        PostHouse x = Town.built(10);
-        x.item(0, 1, 0, 4, 1, 0);
+        PostHouse x = null;
         java.util.Random random = new java.util.Random(3);
         Method[] methods = PostHouse.class.getDeclaredMethods();
         Arrays.sort(methods, java.util.Comparator.comparing(Method::getName));
         for (int k = 0; k < 60000; k++) {
+            if (k % 400 == 0) {
+                x = Town.built(10);
+                x.item(0, 1, 0, 4, 1, 0);
+            }
             Method m = methods[random.nextInt(methods.length)];
             if (!Modifier.isPublic(m.getModifiers())) continue;
             Object[] args = zeros(m, 0);

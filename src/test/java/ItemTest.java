@@ -207,9 +207,10 @@ public final class ItemTest {
         int[] without = {0, 0, 5, 1, 0, 0, 0, 5, 29995 % 4096 / 256, 29995 / 16 % 16, 29995 % 16};
         for (int k = 0; k < 11; k++) Check.due("28: bar(5, " + k + ")", x.bar(5, k), without[k]);
         for (int item = 0; item < 19; item++) {
+            byte[] row = row(x, item);
             for (int a : new int[] {2, 4, 8, 3}) {
                 int sum = 0;
-                for (int k = 0; k < 15; k++) sum = times(sum, a) ^ x.bar(item, k);
+                for (int k = 0; k < 15; k++) sum = times(sum, a) ^ row[k];
                 Check.due("28: the sum for " + a, sum, 0);
             }
         }
@@ -228,15 +229,21 @@ public final class ItemTest {
         return x.scan();
     }
 
-    private static void scans() {
+    private static PostHouse twenty() {
         PostHouse x = Town.built(0);
         Check.due("30: before any", x.mended(), Town.NONE);
         for (int k = 0; k < 20; k++) x.item(1, 1000 + k, 0, 4, 1, 0);
+        return x;
+    }
+
+    private static void scans() {
+        PostHouse x = twenty();
         Random random = new Random(5);
         byte[] right = row(x, 17);
         Check.due("29: a right row", scan(x, right), 17);
         Check.due("30: nothing mended", x.mended(), 0);
         for (int k = 0; k < 15; k++) {
+            x = twenty();
             byte[] one = right.clone();
             one[k] ^= 1 + random.nextInt(15);
             Check.due("29: one symbol differs", scan(x, one), 17);
@@ -248,6 +255,7 @@ public final class ItemTest {
                 Check.due("30: two mended", x.mended(), 2);
             }
         }
+        x = twenty();
         byte[] high = right.clone();
         for (int k = 0; k < 15; k++) high[k] += 16 * k;
         Check.due("29: modulo 16", scan(x, high), 17);
@@ -255,6 +263,7 @@ public final class ItemTest {
         Check.due("29: the row of all 0s is item 0's by its number", scan(x, new byte[15]), 0);
         int far = 0;
         for (int k = 0; k < 200; k++) {
+            if (k % 50 == 0) x = twenty();
             byte[] chance = new byte[15];
             random.nextBytes(chance);
             int item = scan(x, chance);

@@ -2,15 +2,26 @@ import java.lang.reflect.Constructor;
 import java.lang.reflect.Executable;
 import java.lang.reflect.Field;
 import java.lang.reflect.Modifier;
+import java.io.IOException;
+import java.nio.file.Files;
+import java.nio.file.Path;
 import java.util.ArrayList;
 import java.util.Arrays;
 import java.util.HashSet;
 import java.util.List;
 import java.util.Set;
+import java.util.regex.Matcher;
+import java.util.regex.Pattern;
 
-/** What of LANGUAGE.md can be seen in the compiled class: classes, members, fields, parameters, types. */
+/**
+ * What of LANGUAGE.md can be seen in the compiled class (classes, members, fields, parameters, types) and in its source,
+ * whose path the property "house" tells (words, the library's functions, how long methods are).
+ */
 public final class LanguageTest {
-    public static void main(String[] args) {
+    public static void main(String[] args) throws IOException {
+        String path = System.getProperty("house");
+        if (path == null) System.out.println("no source is told: run with -Dhouse=.../PostHouse.java");
+        else source(Files.readString(Path.of(path)));
         List<Class<?>> all = new ArrayList<>(List.of(PostHouse.class));
         all.addAll(Arrays.asList(PostHouse.class.getDeclaredClasses()));
         Check.due("11: at most twelve classes", all.size() <= 12 ? 1 : 0, 1);
@@ -40,5 +51,35 @@ public final class LanguageTest {
             if (own && Modifier.isPrivate(m.getModifiers())) Check.due("1: no private method bears a public one's name: " + m, face.contains(m.getName()) ? 1 : 0, 0);
         }
         for (Constructor<?> k : c.getDeclaredConstructors()) Check.due("11: at most seven parameters of " + k, k.getParameterCount() <= 7 ? 1 : 0, 1);
+    }
+
+    private static void none(String rule, String text, String pattern) {
+        Matcher m = Pattern.compile(pattern).matcher(text);
+        Check.due(rule + ": " + pattern, m.find() ? m.group() : "", "");
+    }
+
+    private static void source(String source) {
+        // Comments and written texts are no code.
+        String code = source.replaceAll("(?s)/\\*.*?\\*/|//[^\n]*", " ").replaceAll("\"(?:\\\\.|[^\"\\\\])*\"", "\"\"");
+        for (char c : source.toCharArray()) if (c > 255) Check.due("3: characters 0 to 255", c, 255);
+        none("the file", code, "(?m)^package ");
+        none("4", code, "(?m)^import (?!java\\.util\\.(Arrays|ArrayList|List|Iterator|NoSuchElementException);).*");
+        none("4", code, "\\bSystem\\.(?!arraycopy\\()\\w+");
+        none("4", code, "\\bArrays\\.(?!copyOf\\(|copyOfRange\\(|fill\\()\\w+");
+        none("4", code, "\\w+Exact\\b");
+        none("2", code, "->|::");
+        none("6", code, "\\b(finally|synchronized|assert|catch|try|getMessage|getClass|hashCode|equals)\\b");
+        none("6", code, "\\bthrow (?!new (IllegalStateException|IllegalArgumentException|IndexOutOfBoundsException)\\()");
+        none("5", code, "\\bstatic \\{");
+        none("10", code, "\"\" \\+|\\+ \"\"");
+        none("13", code, "\\b(Random|Thread|File|currentTimeMillis|nanoTime|getenv|getProperty)\\b");
+        String[] lines = source.split("\n");
+        for (int k = 0; k < lines.length; k++) {
+            Matcher begins = Pattern.compile("( {4}| {8})\\S.*\\) (throws \\w+ )?\\{").matcher(lines[k]);
+            if (!begins.matches()) continue;
+            int end = k;
+            while (end < lines.length && !lines[end].equals(begins.group(1) + "}")) end++;
+            Check.due("11: a short method: " + lines[k].trim(), end - k <= 60 ? 1 : 0, 1);
+        }
     }
 }

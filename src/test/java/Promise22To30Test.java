@@ -60,6 +60,8 @@ public final class Promise22To30Test {
             .due(Town.OUTSIDE, "person 0", x -> x.item(0, 1, 0, 4, 0, 0))
             .due(Town.OUTSIDE, "person 100", x -> x.item(0, 1, 0, 4, 100, 0))
             .due(Town.OUTSIDE, "services -2 with cents", x -> x.item(0, 1, -2, 4, 1, 5))
+            .due(Town.OUTSIDE, "services -1 with cents", x -> x.item(0, 1, -1, 4, 1, 5))
+            .due(Town.OUTSIDE, "services 10 with cents", x -> x.item(0, 1, 10, 4, 1, 5))
             .changedNothing();
     }
 

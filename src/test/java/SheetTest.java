@@ -52,12 +52,14 @@ public final class SheetTest {
         Check.due("18: five digits", show(x, "LIND 12", "00100"), 0);
         Check.due("18: 3: no place", show(x, "LIND 12", "101"), 3);
         Check.due("18: 3: code 0", show(x, "LIND 12", "0"), 3);
+        x = Town.built(0);
         Check.due("18: only the first word of the last line", show(x, "LIND 12", "100 MITTE"), 0);
         Check.due("18: 2: the first word is no number", show(x, "LIND 12", "MITTE 100"), 2);
         Check.due("18: 4: one word", show(x, "12", "100"), 4);
         Check.due("18: 4: no number", show(x, "LIND K2", "100"), 4);
         Check.due("18: 4: four digits", show(x, "LIND 0012", "100"), 4);
         Check.due("18: three digits", show(x, "LIND 012", "100"), 0);
+        x = Town.built(0);
         Check.due("18: 5: no such street", show(x, "AAAAA 12", "100"), 5);
         Check.due("18: 6: no such house", show(x, "LIND 4", "100"), 6);
         Check.due("19: none", x.read(), Town.NONE);
@@ -79,6 +81,7 @@ public final class SheetTest {
         PostHouse x = Town.built(0);
         String[] near = {"LIND", "LINDE", "LND", "LUND", "LID", "LINDEN", "LI", "IND", "ALINDE", "NLID"};
         for (String name : near) Check.due("18: " + name, show(x, name + " 3", "100"), 0);
+        x = Town.built(0);
         String[] far = {"LUNTE", "L", "LINDENB", "DNIL"};
         for (String name : far) Check.due("18: 5: " + name, show(x, name + " 3", "100"), 5);
         Town.book(x, "S100,LAND,0,0,0;R100,LAND,0,1,9;H100,LAND,3;");

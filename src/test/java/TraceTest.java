@@ -6,10 +6,8 @@ public final class TraceTest {
         devices();
         scansAmongEvents();
         notices();
-        manyEvents();
         ticks();
         dayOrder();
-        everythingAgain();
         Check.finish();
     }
 
@@ -132,63 +130,6 @@ public final class TraceTest {
         Check.due("73: none such", x.notice(3, 0), Town.NONE);
     }
 
-    /** A house with a point in each of two places and lines both ways, of whose account 4 all sorts are wished. */
-    private static PostHouse shuttle() {
-        PostHouse x = new PostHouse();
-        Town.book(x, "P1,A;P2,B;S1,A,0,0,0;R1,A,0,1,9;H1,A,1;S2,B,0,0,0;R2,B,0,1,9;H2,B,1;");
-        x.account(0);
-        x.leg(0, 1, 0, 1, 20);
-        x.leg(1, 0, 0, 1, 20);
-        for (int sort = 0; sort < 9; sort++) x.wish(4, sort, true);
-        return x;
-    }
-
-    /** Carries items from one place to the other, in bags of forty, and turns their address round for the day. */
-    private static int carry(PostHouse x, int items, int from, int bag) {
-        if (from == 0) x.forward(0, 0, 1, x.now() / 1440 + 4);
-        for (int i = 0; i < items; i++) {
-            if (i % 40 == 0) x.bag(from, 1 - from);
-            int b = bag + i / 40;
-            x.into(b, i);
-            if (i % 40 == 39 || i == items - 1) x.closeBag(b);
-        }
-        x.tick(1440);
-        x.tick(1440);
-        int end = bag + (items + 39) / 40;
-        for (int b = bag; b < end; b++) x.openBag(b);
-        return end;
-    }
-
-    private static void travel(PostHouse x, int items, int times) {
-        for (int i = 0; i < items; i++) {
-            x.item(0, 10, 0, 4, 1, 0);
-            x.address(i, 0);
-            x.post(i, 0);
-        }
-        int bag = 0;
-        for (int k = 0; k < times; k++) {
-            bag = carry(x, items, k % 2, bag);
-            x.tick(1440);
-            x.tick(1440);
-        }
-    }
-
-    private static void manyEvents() {
-        PostHouse x = shuttle();
-        travel(x, 280, 9);
-        Check.due("10: events", x.count(13), 280 * 20);
-        Check.due("10: notices", x.count(14), 280 * 20);
-        Check.due("73: the last that was kept", x.notice(2999, 0), 4);
-        Check.due("73: others are counted alone", x.notice(3000, 0), Town.NONE);
-        // 560 events of beginnings and 560 of each way: number 5000 is that of item 240 in the bags of the eighth way.
-        Check.due("71: the last that was kept", x.trace(239, 17, 0) * 10 + x.trace(239, 18, 0), 9);
-        Check.due("71: others are counted alone", x.trace(240, 16, 0) * 10 + x.trace(240, 17, 0), 19);
-        Check.due("70: a scan is one more", x.scanned(0, 0, 0, 0) * 10000 + x.count(13), 15601);
-        Check.due("71: it is not kept", x.trace(0, 18, 0), Town.NONE);
-        Check.due("73: a scan makes no notice", x.count(14), 280 * 20);
-        Check.due("76: audit", x.audit(), 0);
-    }
-
     private static void ticks() {
         PostHouse x = new PostHouse();
         Check.due("74: OUTSIDE", x.tick(0) + x.tick(-1) + x.tick(1441), 3 * Town.OUTSIDE);
@@ -213,73 +154,5 @@ public final class TraceTest {
         Town.goOn(x, 6);
         Check.due("74: both go back", x.about(a, 0) * 10 + x.about(b, 0), 11);
         Check.due("73: by numbers", x.notice(0, 1) * 10 + x.notice(1, 1), a * 10 + b);
-    }
-
-    /** All that a house tells, written out. */
-    private static String told(PostHouse x) {
-        StringBuilder b = new StringBuilder();
-        for (int what = 0; what <= 14; what++) b.append(x.count(what)).append(' ');
-        for (int item = 0; item < x.count(5); item++) {
-            for (int what = 0; what <= 16; what++) b.append(x.about(item, what)).append(' ');
-            b.append(trace(x, item));
-        }
-        for (int a = 0; a < 4 + x.count(10); a++) b.append(x.balance(a)).append(' ');
-        for (int bag = 0; bag < x.count(8); bag++) for (int what = 0; what < 6; what++) b.append(x.bagAt(bag, what)).append(' ');
-        for (int r = 0; r < x.count(6); r++) for (int k = 0; k < 20; k++) b.append(x.stop(r, k)).append(' ').append(x.row(r, k)).append(' ');
-        for (int l = 0; l < x.count(9); l++) for (int what = 0; what < 4; what++) b.append(x.lockerAt(l, what)).append(' ');
-        for (int i = 0; i < x.count(14); i++) for (int what = 0; what < 4; what++) b.append(x.notice(i, what)).append(' ');
-        for (int i = 0; i < 3; i++) b.append(x.textLine(i, 0)).append(' ').append(x.wrong(i)).append(' ');
-        return b.append(x.passes()).append(' ').append(x.read()).append(' ').append(x.now()).append(' ').append(x.way(0, 1, 0)).toString();
-    }
-
-    private static void everythingAgain() {
-        PostHouse x = Town.built(5000);
-        Town.tariff(x, Town.TARIFF);
-        x.wish(4, 1, true);
-        x.wish(4, 8, true);
-        Town.lay(x, Sheets.draw(60, 1, 2, "KAI 8", "7"));
-        x.sheet(60);
-        x.leg(0, 1, 300, 1000, 3);
-        x.late(0, 33);
-        x.locker(0, 4);
-        x.machine(3, 7, 1, 9);
-        x.device(2, 50);
-        x.order(4, 5, 700);
-        int[] items = new int[9];
-        for (int k = 0; k < 9; k++) items[k] = Town.posted(x, k % 2, k == 4 ? 1 : 0, k + 1, 0);
-        int taken = x.item(1, 10, 1, 4, 1, 0);
-        x.take(taken);
-        x.post(taken, 0);
-        x.bag(0, 1);
-        x.into(0, taken);
-        x.closeBag(0);
-        x.frank(items[1]);
-        x.round(0, 1, 1);
-        x.assign(0, 0);
-        x.assign(2, 0);
-        x.arrange(0);
-        x.hold(0, 3, 9);
-        x.forward(0, 4, 2, 9);
-        x.sort(0);
-        x.lose(items[4]);
-        x.claim(items[4], 600);
-        x.out(0);
-        x.miss(items[0]);
-        x.put(items[1], 0);
-        x.openBox(0, 5);
-        x.sort(0);
-        x.tick(1000);
-        x.scanned(2, items[0], 3, 1049);
-        String before = told(x);
-        x.sync();
-        Check.due("6: acts", Town.restart(x) > 50 ? 1 : 0, 1);
-        Check.due("6: the house is what its log makes of it", told(x), before);
-        Check.due("6: and once more", Town.restart(x) > 50 ? 1 : 0, 1);
-        Check.due("6: the same", told(x), before);
-        x.tick(1440);
-        x.sync();
-        before = told(x);
-        Town.restart(x);
-        Check.due("6: it goes on from there", told(x), before);
     }
 }
