@@ -30,6 +30,7 @@ public final class Promise22To30Test {
         promise28Numbers();
         promise28Address();
         promise28Sums();
+        promise28InAnyOrder();
         promise29Lengths();
         promise29Modulo16();
         promise29NumbersOfItems();
@@ -503,6 +504,27 @@ public final class Promise22To30Test {
                 for (int s : row) Check.due("28: symbols 0 .. 15", s >= 0 && s <= 15 ? 1 : 0, 1);
                 Check.due("28: all four sums", isRow(row) ? 1 : 0, 1);
             }
+        }
+    }
+
+    /** Each symbol is the same, whatever was asked or scanned before. */
+    private static void promise28InAnyOrder() {
+        PostHouse x = Town.built(0);
+        int[][] rows = new int[4][];
+        for (int item = 0; item < 4; item++) {
+            x.item(item, 7000 * item + 1, 5, 4, 1, 0);
+            if (item % 2 == 0) x.address(item, item);
+            rows[item] = row(x, item);
+        }
+        for (int k = 14; k >= 0; k--) {
+            for (int item : new int[] {2, 0, 3, 1, 2}) Check.due("28: bar(" + item + ", " + k + ")", x.bar(item, k), rows[item][k]);
+        }
+        int[] other = rows[3].clone();
+        other[9] ^= 6;
+        for (int k = 11; k < 15; k++) {
+            scan(x, other);
+            Check.due("28: behind a scan", x.bar(1, k), rows[1][k]);
+            Check.due("30: behind bars", x.mended(), 1);
         }
     }
 
