@@ -12,6 +12,8 @@ public final class PostHouse {
     private static final int DAY = 1440, LAST_MINUTE = 1000000000;
     /** What a text's fault at its first byte answers. */
     private static final int FAULT = -1000;
+    /** Further than any way, and later than any minute. */
+    private static final int ENDLESS = 0x7FFFFFFF;
 
     private final Tape tape = new Tape();
     /** The tape of an act that is done again: the one that lies there is no part of the house. */
@@ -2359,7 +2361,7 @@ public final class PostHouse {
             int[] stops = stop[round];
             for (int k = 0; k < fact[SIZE][round]; k++) {
                 int best = k;
-                int least = Integer.MAX_VALUE;
+                int least = ENDLESS;
                 for (int j = k; j < fact[SIZE][round]; j++) {
                     int way = k == 0 ? fromBeginning(round, stops[j]) : between(stops[k - 1], stops[j]);
                     if (way < least) {
@@ -2406,7 +2408,7 @@ public final class PostHouse {
         /** Of the stops that are left that to which to go from where one stands; NONE when none is left. */
         private int bestNext(int size, int left, int at) {
             int best = NONE;
-            int least = Integer.MAX_VALUE;
+            int least = ENDLESS;
             for (int next = 0; next < size; next++) {
                 if ((left >> next & 1) == 0) continue;
                 int way = apart[at][next] + leastWay[left ^ 1 << next][next];
@@ -2724,7 +2726,7 @@ public final class PostHouse {
 
         /** The next minute at which a line leaves or a bag arrives. */
         int nextMinute() {
-            int next = Integer.MAX_VALUE;
+            int next = ENDLESS;
             for (int line = 0; line < count; line++) next = Math.min(next, fact[NEXT][line]);
             for (int b = 0; b < bags; b++) {
                 if (bag[CONDITION][b] == ON_LINE) next = Math.min(next, bag[ARRIVES][b]);

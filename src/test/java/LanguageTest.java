@@ -66,6 +66,7 @@ public final class LanguageTest {
         none("4", code, "(?m)^import (?!java\\.util\\.(Arrays|ArrayList|List|Iterator|NoSuchElementException);).*");
         none("4", code, "\\bSystem\\.(?!arraycopy\\()\\w+");
         none("4", code, "\\bArrays\\.(?!copyOf\\(|copyOfRange\\(|fill\\()\\w+");
+        none("4", code, "\\b(Integer|Long|Math)\\.(?![a-z]\\w*\\()\\w+");
         none("4", code, "\\w+Exact\\b");
         none("2", code, "->|::");
         none("6", code, "\\b(finally|synchronized|assert|catch|try|getMessage|getClass|hashCode|equals)\\b");
